@@ -69,7 +69,10 @@ public final class GulfTest {
         x.land(0, 1, true);
         x.weather(0, 1000, 40, 1, 0);
         x.ship(10, 5, 0, 0);
+        x.call(0, 99);
+        Checks.orders(x, 0, "south;wait;");
         x.passage(1, 2, 3);
+        x.turns(1);
         x.image(1);
         x.hours(3);
         x.weather(3, 10, -40, 1, 0);
@@ -84,6 +87,12 @@ public final class GulfTest {
         c.same("land is sea again", x.cell(0, 1, 0), 1);
         c.same("fast is over", x.cell(0, 0, 4), 0);
         c.same("no ship", x.cell(0, 0, 6), NONE);
+        c.same("the order at hand stays", x.turn(0), 0);
+        c.same("a new ship", x.ship(1, NONE, 1, 1), 0);
+        int[] ship = {1, NONE, 1, 1, 0, 0, 0, NONE, 0, 0};
+        for (int what = 0; what < ship.length; what++) {
+            c.same("gulf anew: tell(0, " + what + ")", x.tell(0, what), ship[what]);
+        }
         x.ice(0, 0, 50, 0, false);
         x.hours(5);
         c.same("no cold and no wind anew", x.cell(0, 0, 1), 50);

@@ -213,6 +213,16 @@ public final class HoursTest {
         y.hours(1);
         c.same("one too little", y.tell(0, 3), 0);
         c.same("fuel stays", y.tell(0, 1), 9);
+        int[] burdens = {0, 9, 10, 19, 20};
+        int[] takes = {1, 1, 2, 2, 3};
+        for (int k = 0; k < burdens.length; k++) {
+            IcePilots b = row(2);
+            b.ice(0, 1, 1, burdens[k], true);
+            b.ship(20, 50, 0, 0);
+            Checks.orders(b, 0, "east;");
+            b.hours(1);
+            c.same("fuel for burden " + burdens[k], b.tell(0, 1), 50 - takes[k]);
+        }
         IcePilots z = row(2);
         z.ice(0, 1, 100, 49, true);
         z.ship(99, NONE, 0, 0);

@@ -131,6 +131,12 @@ public final class OrdersTest {
         c.refuses(x, 0, "wait;;", 1, 5);
         c.refuses(x, 0, "waitt;", 1, 0);
         c.refuses(x, 0, "wai;", 1, 0);
+        c.refuses(x, 0, "waitz;", 1, 0);
+        c.refuses(x, 0, "wait`;", 1, 4);
+        c.refuses(x, 0, "wait{;", 1, 4);
+        c.refuses(x, 0, "xait;", 1, 0);
+        c.refuses(x, 0, ";".repeat(400), 1, 0);
+        c.refuses(x, 0, "if" + "(".repeat(398), 1, 10);
         c.refuses(x, 0, "northeast;", 1, 0);
         c.refuses(x, 0, "columns;", 1, 0);
         c.refuses(x, 0, "Wait;", 1, 0);
