@@ -38,7 +38,6 @@ public final class IcePilots {
 
     private static final int PASSAGES = 6;
     private static final int ORDERS_OF_SIX = 720;
-    private static final int SIX_DIGITS = 262144;
     private static final int MOST_FROM = 1000;
     private static final int MOST_TAKEN = 100;
     private static final int MOST_WORTH = 100;
@@ -267,11 +266,8 @@ public final class IcePilots {
     }
 
     public int cost(int order, int breakers) {
-        // A number of more than six digits, or below 0, tells no order, even where there is nothing to order.
-        if (!within(breakers, 1, 2) || !within(order, 0, SIX_DIGITS - 1)) {
-            return NONE;
-        }
-        if (!now.convoy.tryDigits(order)) {
+        // No order is refused for its size or sign: what stands behind the digits that are read counts for nothing.
+        if (!within(breakers, 1, 2) || !now.convoy.tryDigits(order)) {
             return NONE;
         }
         return now.convoy.waiting(breakers);
@@ -1171,7 +1167,7 @@ public final class IcePilots {
         boolean tryDigits(int digits) {
             int seen = 0;
             for (int k = 0; k < size; k++) {
-                int passage = (digits >> (3 * k)) & 7;
+                int passage = (digits >>> (3 * k)) & 7;
                 if (passage >= size || (seen >> passage & 1) == 1) {
                     return false;
                 }

@@ -576,19 +576,20 @@ final class Model {
     }
 
     int cost(int order, int breakers) {
-        if (breakers < 1 || breakers > 2 || order < 0 || order > 0777777) {
+        if (breakers < 1 || breakers > 2) {
             return -1;
         }
         int n = s.passages.size();
         boolean[] gone = new boolean[8];
         int[] free = {0, breakers == 2 ? 0 : Integer.MAX_VALUE};
         int cost = 0;
-        for (int k = 0; k < n; k++, order /= 8) {
-            if (order % 8 >= n || gone[order % 8]) {
+        for (int k = 0; k < n; k++, order = Math.floorDiv(order, 8)) {
+            int digit = Math.floorMod(order, 8);
+            if (digit >= n || gone[digit]) {
                 return -1;
             }
-            gone[order % 8] = true;
-            int[] passage = s.passages.get(order % 8);
+            gone[digit] = true;
+            int[] passage = s.passages.get(digit);
             int by = free[1] < free[0] ? 1 : 0;
             int begins = Math.max(free[by], passage[0]);
             cost += passage[2] * (begins - passage[0]);

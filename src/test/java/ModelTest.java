@@ -158,6 +158,9 @@ public final class ModelTest {
         for (int k = 0; k < 6; k++) {
             order |= p[k] << 3 * k;
         }
+        if (random.nextInt(4) == 0) {
+            order = order & (1 << 3 * n) - 1 | random.nextInt() << 3 * n;
+        }
         return random.nextInt(5) == 0 ? near(0, 0777777) : order;
     }
 

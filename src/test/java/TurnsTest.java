@@ -67,6 +67,9 @@ public final class TurnsTest {
         c.same("0 1 2 by two", x.cost(0210, 2), 100 * 2);
         c.same("2 1 0 by two", x.cost(0012, 2), 2 * 6);
         c.same("digits behind", x.cost(0777012, 1), 3 * 1 + 2 * 7);
+        c.same("a seventh digit behind", x.cost(01000012, 1), 3 * 1 + 2 * 7);
+        c.same("all bits behind", x.cost(~0777 | 0012, 1), 3 * 1 + 2 * 7);
+        c.same("the sign behind", x.cost(Integer.MIN_VALUE | 0012, 1), 3 * 1 + 2 * 7);
         c.same("none at hand by cost", x.turn(0), NONE);
         c.same("turns(2)", x.turns(2), 3);
         c.same("first", x.turn(0), 0);
@@ -80,8 +83,13 @@ public final class TurnsTest {
         c.same("none of none, digits count for nothing", x.cost(0777777, 2), 0);
         c.same("no breakers", x.cost(0, 0), NONE);
         c.same("three breakers", x.cost(0, 3), NONE);
-        c.same("seven digits", x.cost(01000000, 1), NONE);
-        c.same("below 0", x.cost(-1, 1), NONE);
+        c.same("seven digits that count for nothing", x.cost(01000000, 1), 0);
+        for (int order : new int[] {-1, -8, Integer.MIN_VALUE, Integer.MAX_VALUE}) {
+            c.same("none of none by one, told " + order, x.cost(order, 1), 0);
+            c.same("none of none by two, told " + order, x.cost(order, 2), 0);
+            c.same("no breakers, told " + order, x.cost(order, 0), NONE);
+            c.same("three breakers, told " + order, x.cost(order, 3), NONE);
+        }
         x.passage(0, 1, 1);
         x.passage(0, 1, 1);
         x.passage(0, 1, 1);
@@ -89,7 +97,8 @@ public final class TurnsTest {
         c.same("1 twice", x.cost(0110, 1), NONE);
         c.same("a passage that is not there", x.cost(0310, 1), NONE);
         c.same("far", x.cost(0770, 1), NONE);
-        c.same("the least", x.cost(Integer.MIN_VALUE | 0210, 1), NONE);
+        c.same("below 0", x.cost(-1, 1), NONE);
+        c.same("below 0, 0 three times", x.cost(Integer.MIN_VALUE, 1), NONE);
         c.same("good", x.cost(0210, 1), 3);
         x.passage(0, 1, 1);
         x.passage(0, 1, 1);
@@ -97,7 +106,11 @@ public final class TurnsTest {
         c.same("all six", x.cost(0543210, 1), 15);
         c.same("all six by two", x.cost(0012345, 2), 1 + 1 + 2 + 2);
         c.same("five of six", x.cost(0443210, 1), NONE);
-        c.same("six of six and more", x.cost(01543210, 1), NONE);
+        c.same("six of six, a digit behind", x.cost(01543210, 1), 15);
+        c.same("six of six, all bits behind", x.cost(~0777777 | 0543210, 1), 15);
+        c.same("five of six, a digit behind", x.cost(05443210, 1), NONE);
+        x.clear();
+        c.same("none any more", x.cost(-1, 1), 0);
     }
 
     private static void twoBreakers() {
