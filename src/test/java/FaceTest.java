@@ -147,29 +147,42 @@ public final class FaceTest {
         return ((com.sun.management.ThreadMXBean) ManagementFactory.getThreadMXBean()).getCurrentThreadAllocatedBytes();
     }
 
-    /** The room of a run holds some 7.3 million fields and elements; a run here stays far below. */
+    /** The room of a run holds some 7.3 million fields and elements; the dearest calls of one object stay far below. */
     private static void room() {
         String text = "if row=1or row=1or row=1or row=1or row=1or row=1or row=1or row=1or row=1or row=1:cut;".repeat(4);
+        int[] bytes = Checks.numbers(text);
         long before = made();
         IcePilots x = new IcePilots();
         x.gulf(8, 8);
+        int calls = 1;
         for (int ship = 0; ship < 8; ship++) {
             x.ship(100, 5000, ship, ship);
-            Checks.orders(x, ship, text);
+            calls += 1 + giveOrders(x, ship, bytes, text.length());
         }
-        for (int k = 0; k < 300; k++) {
+        for (; calls + 4 <= Run.MOST_CALLS; calls += 4) {
             x.ahead(100, 0, 0);
-            x.image(k % 3);
-            x.again(k % 3);
+            x.image(calls / 4 % 3);
+            x.again(calls / 4 % 3);
             x.turns(2);
         }
         long used = made() - before;
-        c.yes("what it makes (bytes): " + used, used < 1_000_000);
+        c.yes("what it makes (bytes): " + used, used < 500_000);
         before = made();
-        for (int k = 0; k < 100; k++) {
-            Checks.orders(x, 0, text);
+        IcePilots y = new IcePilots();
+        y.ship(100, 5000, 0, 0);
+        for (calls = 1; calls + 22 <= Run.MOST_CALLS;) {
+            calls += giveOrders(y, 0, bytes, text.length());
         }
         used = made() - before;
-        c.yes("what reading makes (bytes): " + used, used < 1_000_000);
+        c.yes("what reading makes (bytes): " + used, used < 500_000);
+    }
+
+    private static int giveOrders(IcePilots x, int ship, int[] bytes, int length) {
+        for (int k = 0; k < bytes.length; k += 5) {
+            x.feed(bytes[k], bytes[k + 1], bytes[k + 2], bytes[k + 3], bytes[k + 4]);
+        }
+        x.end(length);
+        c.same("lines", x.orders(ship), 4);
+        return bytes.length / 5 + 2;
     }
 }

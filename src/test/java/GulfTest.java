@@ -17,7 +17,7 @@ public final class GulfTest {
     }
 
     private static void newObject() {
-        IcePilots x = new IcePilots();
+        Run x = new Run();
         c.same("NONE", IcePilots.NONE, -1);
         int[] counts = {1, 1, 0, 0, 0, 0, 0, 0, 0, 0};
         for (int what = 0; what < counts.length; what++) {
@@ -41,7 +41,7 @@ public final class GulfTest {
     }
 
     private static void gulfs() {
-        IcePilots x = new IcePilots();
+        Run x = new Run();
         for (int rows = 1; rows <= 8; rows++) {
             for (int columns = 1; columns <= 8; columns++) {
                 c.yes("gulf(" + rows + ", " + columns + ")", x.gulf(rows, columns));
@@ -62,7 +62,7 @@ public final class GulfTest {
     }
 
     private static void gulfsBeginAnew() {
-        IcePilots x = new IcePilots();
+        Run x = new Run();
         x.gulf(2, 2);
         x.ice(0, 0, 70, 9, true);
         x.ice(1, 1, 50, 1, false);
@@ -103,7 +103,7 @@ public final class GulfTest {
     }
 
     private static void lands() {
-        IcePilots x = new IcePilots();
+        Run x = new Run();
         x.gulf(2, 3);
         c.no("land(-1, 0, true)", x.land(-1, 0, true));
         c.no("land(0, -1, true)", x.land(0, -1, true));
@@ -128,7 +128,7 @@ public final class GulfTest {
     }
 
     private static void ices() {
-        IcePilots x = new IcePilots();
+        Run x = new Run();
         x.gulf(2, 2);
         x.land(1, 1, true);
         c.no("on land", x.ice(1, 1, 1, 1, false));
@@ -159,7 +159,7 @@ public final class GulfTest {
     }
 
     private static void weathers() {
-        IcePilots x = new IcePilots();
+        Run x = new Run();
         c.yes("all hours", x.weather(0, 1000, 0, 0, 0));
         c.yes("last hour", x.weather(999, 1, 0, 0, 0));
         c.yes("least", x.weather(0, 1, -40, 0, 0));
@@ -182,7 +182,7 @@ public final class GulfTest {
     }
 
     private static void weatherOfPastHours() {
-        IcePilots x = new IcePilots();
+        Run x = new Run();
         x.hours(5);
         c.no("hour 4 is over", x.weather(4, 2, 0, 0, 0));
         c.yes("hour 5 is not", x.weather(5, 2, 40, 0, 0));
@@ -202,7 +202,7 @@ public final class GulfTest {
     }
 
     private static void cells() {
-        IcePilots x = new IcePilots();
+        Run x = new Run();
         x.gulf(3, 3);
         x.ice(1, 2, 41, 6, true);
         x.ship(10, 100, 1, 2);
@@ -224,7 +224,7 @@ public final class GulfTest {
     }
 
     private static void counts() {
-        IcePilots x = new IcePilots();
+        Run x = new Run();
         x.gulf(4, 5);
         x.ice(0, 0, 99, 60, false);
         x.ice(3, 4, 100, 100, false);

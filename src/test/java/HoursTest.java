@@ -25,14 +25,14 @@ public final class HoursTest {
         c.finish("HoursTest");
     }
 
-    private static IcePilots row(int columns) {
-        IcePilots x = new IcePilots();
+    private static Run row(int columns) {
+        Run x = new Run();
         x.gulf(1, columns);
         return x;
     }
 
     private static void ships() {
-        IcePilots x = new IcePilots();
+        Run x = new Run();
         x.gulf(3, 3);
         x.land(2, 2, true);
         c.same("strength -1", x.ship(-1, NONE, 0, 0), NONE);
@@ -56,7 +56,7 @@ public final class HoursTest {
     }
 
     private static void tells() {
-        IcePilots x = new IcePilots();
+        Run x = new Run();
         x.gulf(3, 3);
         x.ice(2, 1, 80, 3, false);
         x.ship(42, 17, 2, 1);
@@ -74,7 +74,7 @@ public final class HoursTest {
     }
 
     private static void calls() {
-        IcePilots x = row(2);
+        Run x = row(2);
         x.ship(1, NONE, 0, 0);
         c.yes("call(0, 9999)", x.call(0, 9999));
         c.same("told", x.tell(0, 5), 9999);
@@ -88,7 +88,7 @@ public final class HoursTest {
     }
 
     private static void hoursGoBy() {
-        IcePilots x = new IcePilots();
+        Run x = new Run();
         c.same("hours(0)", x.hours(0), NONE);
         c.same("hours(-1)", x.hours(-1), NONE);
         c.same("hours(101)", x.hours(101), NONE);
@@ -106,7 +106,7 @@ public final class HoursTest {
     }
 
     private static void growing() {
-        IcePilots x = row(4);
+        Run x = row(4);
         x.ice(0, 1, 99, 20, true);
         x.ice(0, 2, 61, 0, false);
         x.land(0, 3, true);
@@ -122,7 +122,7 @@ public final class HoursTest {
     }
 
     private static void melting() {
-        IcePilots x = row(3);
+        Run x = row(3);
         x.ice(0, 0, 100, 19, true);
         x.ice(0, 1, 9, 20, false);
         x.ice(0, 2, 10, 100, false);
@@ -140,7 +140,7 @@ public final class HoursTest {
     private static void drifting() {
         int[][] to = {{0, 1}, {1, 2}, {2, 1}, {1, 0}};
         for (int way = 0; way < 4; way++) {
-            IcePilots x = new IcePilots();
+            Run x = new Run();
             x.gulf(3, 3);
             x.ice(1, 1, 79, 30, false);
             x.weather(0, 1, 0, way, 10);
@@ -153,7 +153,7 @@ public final class HoursTest {
             x.hours(1);
             c.same("land takes none " + way, x.cell(1, 1, 1), 76);
         }
-        IcePilots x = row(4);
+        Run x = row(4);
         x.ice(0, 0, 100, 0, false);
         x.ice(0, 2, 40, 0, true);
         x.ice(0, 3, 40, 0, false);
@@ -169,7 +169,7 @@ public final class HoursTest {
     }
 
     private static void pressing() {
-        IcePilots x = row(3);
+        Run x = row(3);
         x.ice(0, 0, 100, 0, false);
         x.ice(0, 1, 100, 4, false);
         x.ice(0, 2, 90, 0, true);
@@ -181,7 +181,7 @@ public final class HoursTest {
         c.same("pressed to ridges", x.cell(0, 2, 2), 15);
         c.same("burden", x.cell(0, 2, 5), 65);
         // Ice grows first, so that more is sent and pressed in the same hour.
-        IcePilots y = row(2);
+        Run y = row(2);
         y.ice(0, 0, 60, 0, false);
         y.ice(0, 1, 80, 0, false);
         y.weather(0, 1, 40, 1, 50);
@@ -191,7 +191,7 @@ public final class HoursTest {
     }
 
     private static void fuelOfMoves() {
-        IcePilots x = row(3);
+        Run x = row(3);
         x.ice(0, 1, 100, 49, true);
         x.ship(99, 10, 0, 0);
         c.takes(x, 0, "east;", 1);
@@ -206,7 +206,7 @@ public final class HoursTest {
         c.same("a ship beside a breaker without fuel", x.ship(0, NONE, 0, 0), 1);
         x.ice(0, 0, 100, 0, true);
         c.same("is not held", x.tell(1, 4), 0);
-        IcePilots y = row(2);
+        Run y = row(2);
         y.ice(0, 1, 100, 49, true);
         y.ship(99, 9, 0, 0);
         Checks.orders(y, 0, "east;");
@@ -216,14 +216,14 @@ public final class HoursTest {
         int[] burdens = {0, 9, 10, 19, 20};
         int[] takes = {1, 1, 2, 2, 3};
         for (int k = 0; k < burdens.length; k++) {
-            IcePilots b = row(2);
+            Run b = row(2);
             b.ice(0, 1, 1, burdens[k], true);
             b.ship(20, 50, 0, 0);
             Checks.orders(b, 0, "east;");
             b.hours(1);
             c.same("fuel for burden " + burdens[k], b.tell(0, 1), 50 - takes[k]);
         }
-        IcePilots z = row(2);
+        Run z = row(2);
         z.ice(0, 1, 100, 49, true);
         z.ship(99, NONE, 0, 0);
         Checks.orders(z, 0, "east;");
@@ -236,7 +236,7 @@ public final class HoursTest {
         String[] ways = {"north", "east", "south", "west"};
         int[][] to = {{0, 1}, {1, 2}, {2, 1}, {1, 0}};
         for (int way = 0; way < 4; way++) {
-            IcePilots x = new IcePilots();
+            Run x = new Run();
             x.gulf(3, 3);
             x.ship(50, NONE, 1, 1);
             Checks.orders(x, 0, ways[way] + ";");
@@ -264,7 +264,7 @@ public final class HoursTest {
     }
 
     private static void heldShips() {
-        IcePilots x = new IcePilots();
+        Run x = new Run();
         x.gulf(3, 3);
         x.ice(1, 1, 100, 0, true);
         x.ship(49, NONE, 1, 1);
@@ -286,7 +286,7 @@ public final class HoursTest {
         x.ship(0, 1, 1, 2);
         x.hours(1);
         c.same("it goes", x.tell(0, 3), 0);
-        IcePilots y = row(2);
+        Run y = row(2);
         y.ice(0, 0, 2, 0, true);
         y.ship(0, 100, 0, 0);
         c.same("a breaker is held too", y.tell(0, 4), 1);
@@ -299,7 +299,7 @@ public final class HoursTest {
     }
 
     private static void cutting() {
-        IcePilots x = row(1);
+        Run x = row(1);
         x.ship(0, 14, 0, 0);
         Checks.orders(x, 0, "cut;");
         x.hours(3);
@@ -316,7 +316,7 @@ public final class HoursTest {
         c.same("too little fuel", x.tell(0, 8), 0);
         c.same("no channel", x.cell(0, 0, 3), NONE);
         c.same("cutting is no move", x.tell(0, 6), 0);
-        IcePilots y = row(1);
+        Run y = row(1);
         y.ship(0, NONE, 0, 0);
         Checks.orders(y, 0, "cut;");
         y.hours(1);
@@ -329,7 +329,7 @@ public final class HoursTest {
         int[] colds = {-40, -1, 0, 9, 10, 19, 20, 30, 39, 40};
         int[] open = {7, 7, 7, 7, 6, 6, 5, 4, 4, 3};
         for (int k = 0; k < colds.length; k++) {
-            IcePilots x = row(1);
+            Run x = row(1);
             x.ship(0, 5, 0, 0);
             Checks.orders(x, 0, "if hour=2:cut;");
             x.weather(0, 1000, colds[k], 0, 0);
@@ -338,7 +338,7 @@ public final class HoursTest {
             x.hours(1);
             c.same("closed at cold " + colds[k], x.cell(0, 0, 3), NONE);
         }
-        IcePilots x = row(1);
+        Run x = row(1);
         x.ship(0, 5, 0, 0);
         Checks.orders(x, 0, "cut;");
         x.hours(5);
@@ -348,7 +348,7 @@ public final class HoursTest {
     }
 
     private static void channelsCloseByDrift() {
-        IcePilots x = row(3);
+        Run x = row(3);
         x.ice(0, 0, 19, 0, false);
         x.ship(0, 5, 0, 1);
         Checks.orders(x, 0, "cut;");
@@ -362,7 +362,7 @@ public final class HoursTest {
         x.weather(2, 1, 0, 1, 10);
         x.hours(1);
         c.same("ice that comes does", x.cell(0, 1, 3), NONE);
-        IcePilots y = row(2);
+        Run y = row(2);
         y.ice(0, 0, 100, 0, false);
         y.ship(0, 5, 0, 1);
         Checks.orders(y, 0, "cut;");
@@ -374,14 +374,14 @@ public final class HoursTest {
     }
 
     private static void shipsActInTurn() {
-        IcePilots x = row(3);
+        Run x = row(3);
         x.ship(0, NONE, 0, 1);
         x.ship(0, NONE, 0, 0);
         Checks.orders(x, 0, "east;");
         Checks.orders(x, 1, "east;");
         x.hours(1);
         c.same("the first makes room", x.tell(1, 3), 1);
-        IcePilots y = row(3);
+        Run y = row(3);
         y.ship(0, NONE, 0, 0);
         y.ship(0, NONE, 0, 1);
         Checks.orders(y, 0, "east;");
@@ -389,7 +389,7 @@ public final class HoursTest {
         y.hours(1);
         c.same("the later one does not", y.tell(0, 3), 0);
         c.same("it goes itself", y.tell(1, 3), 2);
-        IcePilots z = row(3);
+        Run z = row(3);
         for (int k = 0; k < 3; k++) {
             z.ship(0, NONE, 0, k);
             Checks.orders(z, k, k == 1 ? "call 55;" : "if told=55:wait;");
@@ -404,7 +404,7 @@ public final class HoursTest {
     }
 
     private static void linesAndWaiting() {
-        IcePilots x = row(2);
+        Run x = row(2);
         x.ship(0, NONE, 0, 0);
         x.hours(1);
         c.same("no orders: line", x.tell(0, 7), NONE);
@@ -426,7 +426,7 @@ public final class HoursTest {
     }
 
     private static void foretelling() {
-        IcePilots x = new IcePilots();
+        Run x = new Run();
         x.gulf(2, 4);
         x.ice(0, 2, 50, 0, false);
         x.ice(1, 2, 90, 3, false);
@@ -437,7 +437,7 @@ public final class HoursTest {
         Checks.orders(x, 0, "if hour=1:cut;if hour=3:south;east;");
         Checks.orders(x, 1, "if near>0:wait;east;");
         x.hours(1);
-        String before = Checks.all(x);
+        String before = Told.now(x);
         for (int n = 1; n <= 8; n++) {
             int[][] told = new int[2][4];
             for (int ship = 0; ship < 2; ship++) {
@@ -447,7 +447,7 @@ public final class HoursTest {
             }
             int level = x.ahead(n, -7, 4);
             int ridged = x.ahead(n, 99, 5);
-            c.yes("ahead changes nothing", Checks.all(x).equals(before));
+            c.yes("ahead changes nothing", Told.now(x).equals(before));
             x.image(0);
             int moved0 = x.tell(0, 6);
             int moved1 = x.tell(1, 6);
@@ -477,20 +477,26 @@ public final class HoursTest {
     }
 
     private static void nothingIsLost() {
-        IcePilots x = new IcePilots();
-        x.gulf(8, 8);
         int seed = 12345;
-        for (int k = 0; k < 400; k++) {
-            seed = seed * 1103515245 + 12345;
-            int a = seed >>> 16 & 7;
-            int b = seed >>> 20 & 7;
-            switch (seed >>> 24 & 3) {
-                case 0: x.ice(a, b, seed >>> 8 & 63, seed >>> 9 & 63, (seed >>> 15 & 1) == 1); break;
-                case 1: x.land(a, b, (seed >>> 15 & 3) == 0); break;
-                case 2: x.weather(x.count(3), 5, (seed >>> 9) % 41, seed >>> 15 & 3, (seed >>> 6 & 63) % 51); break;
-                default: x.hours(1 + (seed >>> 13 & 3)); break;
+        for (int run = 0; run < 6; run++) {
+            Run x = new Run();
+            x.gulf(8, 8);
+            for (int k = 0; k < 70; k++) {
+                seed = seed * 1103515245 + 12345;
+                disturb(x, seed);
+                c.same("ice in balance", x.count(4) + x.count(5), x.count(6) + x.count(7) - x.count(8));
             }
-            c.same("ice in balance", x.count(4) + x.count(5), x.count(6) + x.count(7) - x.count(8));
+        }
+    }
+
+    private static void disturb(Run x, int seed) {
+        int a = seed >>> 16 & 7;
+        int b = seed >>> 20 & 7;
+        switch (seed >>> 24 & 3) {
+            case 0: x.ice(a, b, seed >>> 8 & 63, seed >>> 9 & 63, (seed >>> 15 & 1) == 1); break;
+            case 1: x.land(a, b, (seed >>> 15 & 3) == 0); break;
+            case 2: x.weather(x.count(3), 5, (seed >>> 9) % 41, seed >>> 15 & 3, (seed >>> 6 & 63) % 51); break;
+            default: x.hours(1 + (seed >>> 13 & 3)); break;
         }
     }
 }

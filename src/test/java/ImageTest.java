@@ -10,12 +10,11 @@ public final class ImageTest {
         ordersComeBack();
         tapeComesBack();
         imagesAreApart();
-        refusedCallsChangeNothing();
         c.finish("ImageTest");
     }
 
     private static void whichImages() {
-        IcePilots x = new IcePilots();
+        Run x = new Run();
         c.no("image(-1)", x.image(-1));
         c.no("image(3)", x.image(3));
         c.no("again(0)", x.again(0));
@@ -27,29 +26,7 @@ public final class ImageTest {
         c.no("again(3)", x.again(3));
     }
 
-    private static IcePilots busy() {
-        IcePilots x = new IcePilots();
-        x.gulf(3, 4);
-        x.land(2, 3, true);
-        x.ice(0, 1, 77, 5, false);
-        x.ice(1, 2, 90, 20, true);
-        x.weather(0, 6, 35, 1, 40);
-        x.weather(6, 9, -20, 3, 20);
-        x.ship(80, 300, 0, 0);
-        x.ship(60, NONE, 2, 0);
-        x.call(1, 44);
-        Checks.orders(x, 0, "if hour=1:cut;if near>0:call 5;if north<60:north;east;");
-        Checks.orders(x, 1, "if told=5:wait;north;");
-        x.passage(3, 4, 5);
-        x.passage(0, 9, 1);
-        x.passage(1, 1, 100);
-        x.turns(1);
-        x.hours(3);
-        Checks.orders(x, 1, "if told=5:wait;go;");
-        return x;
-    }
-
-    private static void disturb(IcePilots x) {
+    private static void disturb(Run x) {
         x.hours(7);
         x.weather(x.count(3), 50, 1, 2, 3);
         x.clear();
@@ -63,28 +40,28 @@ public final class ImageTest {
     }
 
     private static void everythingComesBack() {
-        IcePilots x = busy();
-        String told = Checks.all(x);
+        Run x = Scenes.busy();
+        String told = Told.now(x);
         x.image(0);
-        c.yes("an image changes nothing", Checks.all(x).equals(told));
+        c.yes("an image changes nothing", Told.now(x).equals(told));
         disturb(x);
-        c.no("all is other", Checks.all(x).equals(told));
+        c.no("all is other", Told.now(x).equals(told));
         x.again(0);
-        c.yes("all is again", Checks.all(x).equals(told));
+        c.yes("all is again", Told.now(x).equals(told));
         c.same("fault(0)", x.fault(0), 1);
         c.same("fault(1)", x.fault(1), 15);
         x.gulf(8, 8);
         x.hours(50);
         x.again(0);
-        c.yes("all is again behind gulf", Checks.all(x).equals(told));
-        IcePilots y = busy();
+        c.yes("all is again behind gulf", Told.now(x).equals(told));
+        Run y = Scenes.busy();
         y.hours(20);
         x.hours(20);
-        c.yes("it goes on as it would have", Checks.all(x).equals(Checks.all(y)));
+        c.yes("it goes on as it would have", Told.now(x).equals(Told.now(y)));
     }
 
     private static void weatherComesBack() {
-        IcePilots x = new IcePilots();
+        Run x = new Run();
         x.weather(5, 1, 40, 0, 0);
         x.image(0);
         x.weather(0, 1000, 10, 0, 0);
@@ -97,7 +74,7 @@ public final class ImageTest {
     }
 
     private static void ordersComeBack() {
-        IcePilots x = new IcePilots();
+        Run x = new Run();
         x.gulf(1, 3);
         x.ship(0, NONE, 0, 1);
         Checks.orders(x, 0, "east;");
@@ -115,7 +92,7 @@ public final class ImageTest {
     }
 
     private static void tapeComesBack() {
-        IcePilots x = new IcePilots();
+        Run x = new Run();
         x.ship(0, NONE, 0, 0);
         Checks.feed(x, "wait;cut;");
         x.image(0);
@@ -128,7 +105,7 @@ public final class ImageTest {
     }
 
     private static void imagesAreApart() {
-        IcePilots x = new IcePilots();
+        Run x = new Run();
         for (int k = 0; k < 3; k++) {
             x.hours(1);
             x.image(k);
@@ -146,35 +123,5 @@ public final class ImageTest {
         x.hours(1);
         x.again(1);
         c.same("image 1 stays as it was", x.count(3), 51);
-    }
-
-    private static void refusedCallsChangeNothing() {
-        IcePilots x = busy();
-        Checks.feed(x, "wait;");
-        String told = Checks.all(x);
-        x.gulf(0, 9);
-        x.land(2, 3, true);
-        x.land(0, 0, false);
-        x.ice(2, 3, 1, 1, true);
-        x.ice(0, 0, 101, 0, true);
-        x.weather(0, 5, 0, 0, 0);
-        x.weather(5, 5, 0, 0, 51);
-        x.ship(1, 0, 0, 3);
-        x.ship(1, 1, 2, 3);
-        x.end(6);
-        x.orders(2);
-        x.call(0, 10000);
-        x.call(2, 1);
-        x.hours(0);
-        x.hours(101);
-        x.ahead(101, 0, 0);
-        x.passage(0, 0, 0);
-        x.turns(0);
-        x.cost(0, 1);
-        x.image(3);
-        x.again(1);
-        c.yes("refused calls change nothing", Checks.all(x).equals(told));
-        c.same("the tape stays", x.end(5), 5);
-        c.same("orders", x.orders(0), 1);
     }
 }

@@ -3,8 +3,8 @@ import java.util.Random;
 
 /** All promises: random runs of calls, each answer held against the one of the plainer Model. */
 public final class ModelTest {
-    private static final int RUNS = 400;
-    private static final int CALLS = 500;
+    private static final int RUNS = 700;
+    private static final int MOST_CALLS_OF_A_STEP = 30;
     private static final String[] WHATS = {"hour", "level", "ridge", "fuel", "held", "near", "row", "column",
         "north", "east", "south", "west", "told"};
     private static final String[] ACTS = {"north", "east", "south", "west", "north", "east", "south", "west",
@@ -14,7 +14,7 @@ public final class ModelTest {
     private static final Checks c = new Checks();
 
     private final Random random;
-    private final IcePilots x = new IcePilots();
+    private final Run x = new Run();
     private final Model m = new Model();
     private String latest = "";
 
@@ -25,11 +25,21 @@ public final class ModelTest {
     public static void main(String[] args) {
         for (int seed = 0; seed < RUNS; seed++) {
             ModelTest test = new ModelTest(seed);
-            for (int k = 0; k < CALLS; k++) {
+            for (int k = 0; test.x.callsLeft() >= MOST_CALLS_OF_A_STEP; k++) {
                 test.step(seed, k);
             }
+            test.useUp(seed);
         }
         c.finish("ModelTest");
+    }
+
+    /** To the 512th call. */
+    private void useUp(int seed) {
+        latest = "";
+        for (int k = 500; x.callsLeft() > 1; k++) {
+            ask(seed, k, 63 + random.nextInt(33));
+        }
+        is(seed, 512, "hours", x.hours(1), m.hours(1));
     }
 
     private void is(int seed, int k, String call, long got, long want) {

@@ -17,14 +17,14 @@ public final class OrdersTest {
         c.finish("OrdersTest");
     }
 
-    private static IcePilots oneShip() {
-        IcePilots x = new IcePilots();
+    private static Run oneShip() {
+        Run x = new Run();
         x.ship(10, 100, 0, 0);
         return x;
     }
 
     private static void tape() {
-        IcePilots x = new IcePilots();
+        Run x = new Run();
         for (int k = 1; k <= 20; k++) {
             c.same("feed " + k, x.feed(k, 0, 0, 0, 0), 20 * k);
         }
@@ -43,7 +43,7 @@ public final class OrdersTest {
     }
 
     private static void tapeIsTaken() {
-        IcePilots x = oneShip();
+        Run x = oneShip();
         Checks.feed(x, "wait;");
         c.same("no ship 1", x.orders(1), -2);
         c.same("no ship -1", x.orders(-1), -2);
@@ -59,7 +59,7 @@ public final class OrdersTest {
     }
 
     private static void bytesComeHighestFirst() {
-        IcePilots x = oneShip();
+        Run x = oneShip();
         // "wait;call 77;cut;   " in five numbers.
         c.same("feed", x.feed(0x77616974, 0x3b63616c, 0x6c203737, 0x3b637574, 0x3b202020), 20);
         c.same("lines", x.orders(0), 3);
@@ -71,7 +71,7 @@ public final class OrdersTest {
     }
 
     private static void goodTexts() {
-        IcePilots x = oneShip();
+        Run x = oneShip();
         c.takes(x, 0, "", 0);
         c.takes(x, 0, " \n \n", 0);
         c.takes(x, 0, "north;east;south;west;wait;cut;call 0;", 7);
@@ -91,7 +91,7 @@ public final class OrdersTest {
     }
 
     private static void faultsOfForm() {
-        IcePilots x = oneShip();
+        Run x = oneShip();
         c.refuses(x, 0, "go;", 1, 0);
         c.refuses(x, 0, "east", 1, 4);
         c.refuses(x, 0, "east  ", 1, 6);
@@ -155,7 +155,7 @@ public final class OrdersTest {
     }
 
     private static void faultsOfDepth() {
-        IcePilots x = oneShip();
+        Run x = oneShip();
         c.takes(x, 0, nested(7), 1);
         c.takes(x, 0, "if ((((((not(hour=1)or(hour=2)))))))and(hour=3):wait;", 1);
         c.refuses(x, 0, nested(8), 1, 11);
@@ -166,7 +166,7 @@ public final class OrdersTest {
     }
 
     private static void faultsOfLength() {
-        IcePilots x = oneShip();
+        Run x = oneShip();
         c.takes(x, 0, "cut;".repeat(20), 20);
         c.takes(x, 0, "cut;".repeat(20) + "   ", 20);
         c.refuses(x, 0, "cut;".repeat(20) + "  wait;", 2, 82);
@@ -180,7 +180,7 @@ public final class OrdersTest {
     }
 
     private static void faultStays() {
-        IcePilots x = oneShip();
+        Run x = oneShip();
         c.refuses(x, 0, "cut;cut", 1, 7);
         c.same("no such ship", x.orders(3), -2);
         c.same("fault(0)", x.fault(0), 1);
@@ -192,7 +192,7 @@ public final class OrdersTest {
     }
 
     /** The line that holds tells what was seen. */
-    private static void seen(IcePilots x, String what, int value) {
+    private static void seen(Run x, String what, int value) {
         c.takes(x, 0, "if " + what + "=" + value + ":wait;", 1);
         c.same(what + "=" + value, x.ahead(1, 0, 3), 0);
         Checks.orders(x, 0, "if " + what + "<" + value + ":wait;if " + what + ">" + value + ":cut;if "
@@ -204,7 +204,7 @@ public final class OrdersTest {
     }
 
     private static void everyWord() {
-        IcePilots x = new IcePilots();
+        Run x = new Run();
         x.gulf(4, 4);
         x.ice(2, 1, 61, 8, false);
         x.ice(1, 1, 31, 2, false);
@@ -236,7 +236,7 @@ public final class OrdersTest {
     }
 
     private static void fuelOfOthers() {
-        IcePilots x = new IcePilots();
+        Run x = new Run();
         x.ship(1, NONE, 0, 0);
         Checks.orders(x, 0, "if fuel=0:wait;if fuel>0:wait;if fuel<0:wait;");
         x.hours(1);
@@ -244,7 +244,7 @@ public final class OrdersTest {
     }
 
     private static void edgeOfTheGulf() {
-        IcePilots x = new IcePilots();
+        Run x = new Run();
         x.ship(1, NONE, 0, 0);
         Checks.orders(x, 0, "if north=999 and east=999 and south=999 and west=999:wait;");
         x.hours(1);
@@ -253,7 +253,7 @@ public final class OrdersTest {
 
     /** row=0 always holds here, row=1 never does. */
     private static void holds(String condition, boolean want) {
-        IcePilots x = oneShip();
+        Run x = oneShip();
         String text = condition.replace("T", "row=0").replace("F", "row=1");
         c.takes(x, 0, "if " + text + ":wait;", 1);
         x.hours(1);

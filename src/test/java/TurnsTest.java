@@ -14,7 +14,7 @@ public final class TurnsTest {
     }
 
     private static void passages() {
-        IcePilots x = new IcePilots();
+        Run x = new Run();
         c.same("from -1", x.passage(-1, 1, 1), NONE);
         c.same("from 1001", x.passage(1001, 1, 1), NONE);
         c.same("hours 0", x.passage(0, 0, 1), NONE);
@@ -32,7 +32,7 @@ public final class TurnsTest {
     }
 
     private static void cleared() {
-        IcePilots x = new IcePilots();
+        Run x = new Run();
         x.passage(9, 1, 1);
         x.passage(0, 1, 1);
         c.same("nothing at hand", x.turn(0), NONE);
@@ -57,7 +57,7 @@ public final class TurnsTest {
     }
 
     private static void costs() {
-        IcePilots x = new IcePilots();
+        Run x = new Run();
         x.passage(0, 10, 2);
         x.passage(5, 1, 3);
         x.passage(4, 2, 100);
@@ -78,7 +78,7 @@ public final class TurnsTest {
     }
 
     private static void noOrders() {
-        IcePilots x = new IcePilots();
+        Run x = new Run();
         c.same("none of none", x.cost(0, 1), 0);
         c.same("none of none, digits count for nothing", x.cost(0777777, 2), 0);
         c.same("no breakers", x.cost(0, 0), NONE);
@@ -114,7 +114,7 @@ public final class TurnsTest {
     }
 
     private static void twoBreakers() {
-        IcePilots x = new IcePilots();
+        Run x = new Run();
         // The lesser of two alike goes, so the first breaker is busy to 100 and the second is free at 0.
         x.passage(50, 50, 1);
         x.passage(0, 3, 1);
@@ -130,7 +130,7 @@ public final class TurnsTest {
     private static void leastOfAll() {
         int seed = 99;
         for (int run = 0; run < 60; run++) {
-            IcePilots x = new IcePilots();
+            Run x = new Run();
             int n = run % 7;
             int[] from = new int[6];
             int[] takes = new int[6];
