@@ -4,7 +4,7 @@ import java.util.function.ToIntFunction;
 
 /** What every test uses: a count of wrong answers, and ways to write the calls shortly. */
 final class Checks {
-    private static final int LONGEST_SECONDS = 300;
+    private static final int LONGEST_SECONDS = 120;
 
     private int wrong = 0;
     private int asked = 0;
