@@ -83,8 +83,7 @@ public final class HourBoundsTest {
     private static void sees(Run x, int ship, String what, int number) {
         Run y = x.fork();
         y.end(0);
-        String text = String.format(Locale.ROOT, "if %s<%d:wait;if %s>%d:wait;if %s=%d:wait;", what, number, what, number,
-                what, number);
+        String text = String.format(Locale.ROOT, "if %1$s<%2$d:wait;if %1$s>%2$d:wait;if %1$s=%2$d:wait;", what, number);
         c.takes(y, ship, text, 3);
         y.hours(1);
         c.same("the line for " + what + "=" + number, y.tell(ship, 7), 2);
@@ -582,8 +581,8 @@ public final class HourBoundsTest {
     }
 
     private static void driftIsCut() {
-        int[][] due = {{100, 1, 0}, {100, 2, 1}, {99, 2, 0}, {3, 50, 0}, {4, 50, 1}, {100, 50, 25}, {99, 50, 24}, {0, 50, 0},
-            {21, 19, 1}};
+        int[][] due = {{100, 1, 0}, {100, 2, 1}, {99, 2, 0}, {3, 50, 0}, {4, 50, 1}, {100, 50, 25}, {99, 50, 24},
+            {0, 50, 0}, {21, 19, 1}};
         for (int[] n : due) {
             Run x = Scenes.row(2);
             x.ice(0, 0, n[0], 9, false);
