@@ -207,6 +207,7 @@ public final class OrdersBoundsTest {
         takes("\n".repeat(395) + "wait;", 1);
         refuses("\n".repeat(396) + "wait", 1, 400);
         refuses(" ".repeat(399) + "$", 1, 399);
+        refuses(";".repeat(400), 1, 0);
         refuses("a".repeat(400), 1, 0);
         refuses("call " + "1".repeat(395), 1, 5);
     }
